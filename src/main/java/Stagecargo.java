@@ -231,10 +231,9 @@ public final class Stagecargo {
     }
 
     public int beginOf(int piece) throws NoSuchElementException {
-        checkPiece(piece);
         int index = rig.indexOf(piece);
         if (index < 0) {
-            throw new NoSuchElementException("the piece is not hung");
+            throw new NoSuchElementException("there is no such piece, or it is not hung");
         }
         return rig.begins[index];
     }
@@ -341,8 +340,10 @@ public final class Stagecargo {
         if (town == null) {
             return true;
         }
+        findBest();
+        tryAllCompletions();
         return noPointOverloaded(town) && needsHungBefore()
-                && costByPieces(rig) == costMinuteByMinute() && bothWorthsAgree();
+                && costByPieces(rig) == costMinuteByMinute() && best.worth == triedWorth;
     }
 
     // ---- Checks of arguments
@@ -650,12 +651,6 @@ public final class Stagecargo {
             before |= 1 << number;
         }
         return true;
-    }
-
-    private boolean bothWorthsAgree() {
-        findBest();
-        tryAllCompletions();
-        return best.worth == triedWorth;
     }
 
     private static final class Point {

@@ -8,6 +8,9 @@ public final class BestTest {
         endSecond();
         costThird();
         lowerPieceLast();
+        costBehindTheGap();
+        bestBehindASmallOne();
+        eachAskedFirst();
         reasonThatPasses();
         needsAndLoads();
         fromThePresentRig();
@@ -82,6 +85,71 @@ public final class BestTest {
         Stagecargo needed = Shows.lightIn(480, 5, 1440, 10, 10, 10);
         needed.need(0, 2);
         dueBest("the lowest that may be first", needed, 15, 30, 0, 1, 2, 0);
+    }
+
+    /** The gap lies at 90 to 110 or at 100 to 120, and nothing else comes between; both end at 210. */
+    private static void costBehindTheGap() {
+        Stagecargo desk = Shows.lightIn(100, 20, 1440, 60, 30, 50, 50);
+        desk.setRates(0, 1, 100, 2);
+        dueBest("the gap in the overtime", desk, 20, 210, 100 + 90 * 2, 2, 3, 0, 1);
+        desk.setRates(0, 2, 100, 1);
+        dueBest("the gap before the overtime", desk, 20, 210, 90 * 2 + 100, 0, 1, 2, 3);
+    }
+
+    /** Piece 1 can only come behind the small piece 2, without piece 0, and ends just at the curfew. */
+    private static void bestBehindASmallOne() {
+        int[][] laws = {{480, 5, 65, 61}, {60, 5, 70, 60}};
+        for (int[] law : laws) {
+            Stagecargo desk = new Stagecargo();
+            desk.addPoint(0, 5000);
+            desk.addPoint(10, 5000);
+            desk.addPiece(10, law[3], 10, 0);
+            desk.addPiece(10, 60, 20, 0);
+            desk.addPiece(10, 5, 1, 0);
+            for (int i = 0; i < 3; i++) {
+                desk.fix(i, 0, 1, 5, 0);
+            }
+            desk.need(1, 2);
+            desk.addTown(100, law[0], law[1], law[2]);
+            desk.come(0);
+            dueBest("curfew " + law[2], desk, 21, law[2], 0, 2, 1);
+        }
+    }
+
+    /** No question about the best completion rests on another one that was asked before. */
+    private static void eachAskedFirst() {
+        Stagecargo desk = Shows.lightIn(480, 5, 1440, 10, 20, 30);
+        desk.setRates(0, 1, 1440, 0);
+        Check.due("bestEnd first", 60, desk.bestEnd());
+        desk.addPiece(10, 40, 5, 0);
+        desk.fix(3, 0, 1, 5, 0);
+        Check.due("bestCost behind a new piece", 100, desk.bestCost());
+        desk.setRates(0, 2, 1440, 0);
+        Check.due("bestCost behind new rates", 200, desk.bestCost());
+        desk.setArrival(0, 1);
+        Check.due("bestEnd behind an arrival", 100, desk.bestEnd());
+        Check.due("bestAt behind an arrival", 1, desk.bestAt(0));
+        desk.need(1, 2);
+        Check.due("bestAt behind a need", 2, desk.bestAt(0));
+        desk.hang(3);
+        Check.due("bestAt behind a piece", 3, desk.bestAt(0));
+        desk.takeDown();
+        Check.due("bestAt behind taking down", 2, desk.bestAt(0));
+        desk.addPoint(20, 100);
+        desk.addPiece(1000, 40, 5, 0);
+        Check.due("bestSize without a fixing", 4, desk.bestSize());
+        desk.fix(4, 0, 2, 0, 0);
+        Check.due("bestSize behind a fixing", 5, desk.bestSize());
+        desk.addTown(10, 30, 5, 100);
+        desk.come(1);
+        Check.due("bestWorth in another town", 15, desk.bestWorth());
+        desk.come(0);
+        Check.due("bestWorth in the first town", 25, desk.bestWorth());
+        desk.come(1);
+        Check.due("bestByAll in another town", 15, desk.bestByAll());
+        Check.due("complete", 3, desk.complete());
+        desk.come(0);
+        Check.due("complete in the first town", 5, desk.complete());
     }
 
     /** Piece 1 would end at 165 behind piece 0, and at 160 if piece 2 takes the pause between them. */

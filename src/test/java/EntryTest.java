@@ -9,6 +9,7 @@ public final class EntryTest {
         addPoint();
         addPiece();
         fixAnswers();
+        fixOnPointsNumberedBackwards();
         fixReplaces();
         fixRefuses();
         needAnswers();
@@ -130,6 +131,9 @@ public final class EntryTest {
         desk.fix(0, 0, 1, 11, 1);
         Check.due("33 * 1.01 is rounded up", 34, desk.loadOn(0, 1));
         Check.due("67 * 1.01 is rounded up", 68, desk.loadOn(0, 0));
+        desk.addPiece(10, 10, 1, 0);
+        Check.due("a part of 1", 1, desk.fix(2, 0, 2, 15, 1));
+        Check.due("1 * 1.01 is rounded up", 2, desk.loadOn(2, 2));
         desk.fix(0, 0, 1, 11, 60);
         Check.due("33 * 1.6 is rounded up", 53, desk.loadOn(0, 1));
         Check.due("67 * 1.6 is rounded up", 108, desk.loadOn(0, 0));
@@ -137,6 +141,29 @@ public final class EntryTest {
         Check.due("1960 * 1.5", 2940, desk.loadOn(1, 2));
         Check.due("40 * 1.5", 60, desk.loadOn(1, 0));
         Check.due("a point at the same place is another", 0, desk.loadOn(1, 3));
+    }
+
+    private static void fixOnPointsNumberedBackwards() {
+        Stagecargo desk = new Stagecargo();
+        desk.addPoint(10, 100);
+        desk.addPoint(0, 100);
+        desk.addPiece(100, 10, 1, 0);
+        Check.due("part of point 0 on the right", 30, desk.fix(0, 1, 0, 3, 0));
+        Check.due("load on point 0", 30, desk.loadOn(0, 0));
+        Check.due("load on point 1", 70, desk.loadOn(0, 1));
+        desk.addTown(70, 30, 5, 60);
+        desk.addTown(69, 30, 5, 60);
+        desk.come(1);
+        Check.dueChar("one more than the left point may bear", 'l', desk.reason(0));
+        desk.fix(0, 1, 0, 7, 0);
+        Check.dueChar("one more than the right point may bear", 'l', desk.reason(0));
+        desk.come(0);
+        desk.hang(0);
+        Check.due("point 0 bears", 70, desk.bears(0));
+        Check.due("point 1 bears", 30, desk.bears(1));
+        desk.takeDown();
+        Check.due("nothing hangs", 0, desk.hung());
+        Check.due("point 0 bears nothing", 0, desk.bears(0));
     }
 
     private static void fixReplaces() {
@@ -235,6 +262,11 @@ public final class EntryTest {
             down.need(i, i - 1);
         }
         Check.thrown("a ring of all, downwards", UnsupportedOperationException.class, () -> down.need(0, 5));
+
+        Stagecargo mixed = Shows.light(5, 5, 5);
+        mixed.need(1, 0);
+        mixed.need(0, 2);
+        Check.thrown("a ring by way of piece 0", UnsupportedOperationException.class, () -> mixed.need(2, 1));
 
         Stagecargo ring = Shows.oneHung();
         Check.refused(ring, "need that makes a ring", UnsupportedOperationException.class, () -> ring.need(0, 1));
