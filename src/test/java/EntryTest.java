@@ -89,7 +89,8 @@ public final class EntryTest {
             Check.thrown("addPiece far truck", IllegalArgumentException.class, () -> desk.addPiece(10, 5, 1, far));
         }
         Check.thrown("hungShare without pieces", ArithmeticException.class, desk::hungShare);
-        int[][] good = {{10, 5, 1, 0}, {2000, 240, 99, 2}, {10, 5, 99, 1}, {2000, 5, 1, 0}, {10, 240, 1, 2}, {11, 6, 2, 1}};
+        int[][] good = {{10, 5, 1, 0}, {2000, 240, 99, 2}, {10, 5, 99, 1}, {2000, 5, 1, 0}, {10, 240, 1, 2},
+                {11, 6, 2, 1}};
         for (int i = 0; i < good.length; i++) {
             Check.due("addPiece number " + i, i, desk.addPiece(good[i][0], good[i][1], good[i][2], good[i][3]));
         }

@@ -49,7 +49,8 @@ public final class FaceTest {
 
     public static void main(String[] args) {
         Check.isTrue("the class is public and final",
-                Modifier.isPublic(Stagecargo.class.getModifiers()) && Modifier.isFinal(Stagecargo.class.getModifiers()));
+                Modifier.isPublic(Stagecargo.class.getModifiers())
+                        && Modifier.isFinal(Stagecargo.class.getModifiers()));
         methods();
         constructors();
         for (Field field : Stagecargo.class.getDeclaredFields()) {

@@ -74,7 +74,8 @@ public final class OracleTest {
             case ADD_POINT: {
                 int place = drawn(0, 60);
                 int limit = draw(3) == 0 ? drawn(100, 1500) : drawn(100, 5000);
-                return both("addPoint", () -> desk.addPoint(place, limit), () -> oracle.addPoint(place, limit), place, limit);
+                return both("addPoint", () -> desk.addPoint(place, limit),
+                        () -> oracle.addPoint(place, limit), place, limit);
             }
             case ADD_PIECE: {
                 int weight = draw(4) == 0 ? drawn(10, 2000) : drawn(10, 500);
@@ -99,7 +100,8 @@ public final class OracleTest {
             }
             case SET_ARRIVAL: {
                 int minute = draw(3) == 0 ? 0 : draw(4) == 0 ? drawn(0, 1440) : draw(300);
-                return both("setArrival", () -> desk.setArrival(small, minute), () -> oracle.setArrival(small, minute), small, minute);
+                return both("setArrival", () -> desk.setArrival(small, minute),
+                        () -> oracle.setArrival(small, minute), small, minute);
             }
             case ADD_TOWN: {
                 int allowance = draw(2) == 0 ? 100 : drawn(10, 100);

@@ -258,8 +258,8 @@ public final class RigTest {
         Check.dueText("all is as before the second", one, Snapshot.of(desk));
         Check.due("the first one", 2, desk.takeDown());
         Check.dueText("all is as before the first", none, Snapshot.of(desk));
-        Check.refused(Shows.lightIn(100, 15, 1440, 60), "takeDown in a town", IllegalStateException.class,
-                Shows.lightIn(100, 15, 1440, 60)::takeDown);
+        Stagecargo bare = Shows.lightIn(100, 15, 1440, 60);
+        Check.refused(bare, "takeDown in a town", IllegalStateException.class, bare::takeDown);
         Check.thrown("in no town", IllegalStateException.class, Shows.light(60)::takeDown);
     }
 

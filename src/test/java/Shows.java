@@ -12,7 +12,7 @@ final class Shows {
         return desk;
     }
 
-    /** Two points that bear whatever is hung, pieces of 10 kg with these minutes and trucks 0, 1, 2, 0, 1, 2, all fixed. */
+    /** Two points that bear whatever is hung, and fixed pieces of 10 kg with these minutes, of trucks 0, 1, 2, 0 .. */
     static Stagecargo light(int... minutes) {
         Stagecargo desk = new Stagecargo();
         desk.addPoint(0, 5000);

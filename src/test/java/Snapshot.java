@@ -1,4 +1,4 @@
-/** All that can be asked of a desk, as a text: about 130 calls. */
+/** All that can be asked of a desk, as a text: about 110 calls. */
 final class Snapshot {
     private interface Asked {
         Object answer();
