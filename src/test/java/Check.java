@@ -5,10 +5,39 @@ final class Check {
         void run();
     }
 
+    /** A call that is made with a number that may be out of range. */
+    interface Taker {
+        void take(int value);
+    }
+
+    /** How a desk is made; each time the same. */
+    interface Made {
+        Stagecargo desk();
+    }
+
+    /** A call that a desk refuses. */
+    interface Refused {
+        void by(Stagecargo desk);
+    }
+
+    private static String about = "";
     private static int checks = 0;
     private static int wrong = 0;
 
     private Check() {
+    }
+
+    /**
+     * What follows is about this part of a promise: "does" for what the call does, the name of a
+     * parameter, "Returns", or "Throws" and the exception. SentencesTest looks for all parts.
+     */
+    static void promise(int number, String part) {
+        about = "Promise " + number + ", " + part + ": ";
+    }
+
+    /** What follows is about the sentence of "Terms" that has these words. SentencesTest looks for all of them. */
+    static void terms(String words) {
+        about = "Terms, \"" + words + "\": ";
     }
 
     static void due(String what, long due, long got) {
@@ -36,11 +65,41 @@ final class Check {
         dueText(what, due.getSimpleName(), nameOfThrown(call));
     }
 
-    /** The call throws an exception of exactly this class and nothing that can be asked is changed. */
-    static void refused(Stagecargo desk, String what, Class<? extends RuntimeException> due, Call call) {
-        String before = Snapshot.of(desk);
-        thrown(what, due, call);
-        dueText(what + " changes nothing", before, Snapshot.of(desk));
+    /** The same, for the number next to the last one on either side and for those that are farthest away. */
+    static void thrownBeyond(String what, int least, int greatest, Class<? extends RuntimeException> due, Taker taker) {
+        int[] beyond = {Integer.MIN_VALUE, least - 1, greatest + 1, Integer.MAX_VALUE};
+        for (int value : beyond) {
+            thrown(what + " " + value, due, () -> taker.take(value));
+        }
+    }
+
+    /** The numbers from least to greatest are taken, and none beyond either end. */
+    static void range(String what, int least, int greatest, Class<? extends RuntimeException> due, Taker taker) {
+        int[] within = {least, least + 1, greatest - 1, greatest};
+        for (int value : within) {
+            dueText(what + " " + value, "nothing", nameOfThrown(() -> taker.take(value)));
+        }
+        thrownBeyond(what, least, greatest, due, taker);
+    }
+
+    /** The call throws an exception of exactly this class, and the desk is as one that was never asked. */
+    static void refused(String what, Made made, Class<? extends RuntimeException> due, Refused call) {
+        Stagecargo touched = made.desk();
+        thrown(what, due, () -> call.by(touched));
+        dueText(what + " changes nothing", Probe.of(made.desk()), Probe.of(touched));
+    }
+
+    /** All that the desk says of its best completion. */
+    static void best(String what, Stagecargo desk, int worth, int end, int cost, int... pieces) {
+        due(what + ": bestWorth", worth, desk.bestWorth());
+        due(what + ": bestByAll", worth, desk.bestByAll());
+        due(what + ": bestEnd", end, desk.bestEnd());
+        due(what + ": bestCost", cost, desk.bestCost());
+        due(what + ": bestSize", pieces.length, desk.bestSize());
+        for (int i = 0; i < pieces.length; i++) {
+            due(what + ": bestAt(" + i + ")", pieces[i], desk.bestAt(i));
+        }
+        thrown(what + ": bestAt has no more", IndexOutOfBoundsException.class, () -> desk.bestAt(pieces.length));
     }
 
     static String nameOfThrown(Call call) {
@@ -63,7 +122,7 @@ final class Check {
         checks++;
         if (!right) {
             wrong++;
-            System.out.println(what + " answered " + got + ", due is " + due);
+            System.out.println(about + what + " answered " + got + ", due is " + due);
         }
     }
 }
