@@ -15,6 +15,8 @@ public final class BestTest {
         bestBehindASmallOne();
         bestInFourTowns();
         reasonThatPasses();
+        greatWorthThatComesLater();
+        greatWorthThatNeedsAnother();
         needsAndLoads();
         fromThePresentRig();
         eachAskedFirst();
@@ -131,6 +133,47 @@ public final class BestTest {
         desk.hang(2);
         Check.promise(14, "Returns");
         Check.dueChar("not too late any more", '-', desk.reason(1));
+    }
+
+    /**
+     * Piece 0 is worth the most and can be hung at once. Behind piece 1 it would come too late, if piece 2 did not
+     * take the pause between them; and only so all three are hung.
+     */
+    private static void greatWorthThatComesLater() {
+        Stagecargo desk = Shows.withoutPieces();
+        desk.addPiece(10, 20, 50, 1);
+        desk.addPiece(10, 90, 5, 0);
+        desk.addPiece(10, 20, 5, 2);
+        for (int i = 0; i < 3; i++) {
+            desk.fix(i, 0, 1, 5, 0);
+        }
+        desk.setArrival(1, 115);
+        desk.addTown(100, 100, 30, 160);
+        desk.come(1);
+        dueBest(desk, 60, 160, 0, 1, 2, 0);
+        desk.need(0, 2);
+        dueBest(desk, 60, 160, 0, 1, 2, 0);
+    }
+
+    /** Piece 1 is worth the most and needs 0; piece 2 hangs only before both, so that 0 and 1 alone are found first. */
+    private static void greatWorthThatNeedsAnother() {
+        Stagecargo desk = Shows.withoutPieces();
+        desk.addPiece(10, 5, 1, 2);
+        desk.addPiece(10, 20, 50, 1);
+        desk.addPiece(10, 60, 5, 0);
+        for (int i = 0; i < 3; i++) {
+            desk.fix(i, 0, 1, 5, 0);
+        }
+        desk.need(1, 0);
+        desk.setArrival(1, 70);
+        desk.setArrival(2, 61);
+        desk.addTown(100, 480, 5, 90);
+        desk.come(1);
+        dueBest(desk, 56, 90, 0, 2, 0, 1);
+        desk.setArrival(0, 1);
+        dueBest(desk, 56, 90, 0, 2, 0, 1);
+        desk.setArrival(0, 6);
+        dueBest(desk, 51, 90, 0, 0, 1);
     }
 
     private static void needsAndLoads() {

@@ -278,6 +278,16 @@ public final class EntryTest {
         desk.takeDown();
         Check.due("point 0 bears nothing again", 0, desk.bears(0));
         Check.due("point 1 bears nothing again", 0, desk.bears(1));
+        desk.addTown(70, 30, 5, 60);
+        desk.addTown(69, 30, 5, 60);
+        desk.come(1);
+        Check.dueChar("point 1 on the left may just bear 70", '-', desk.reason(0));
+        desk.come(2);
+        Check.dueChar("and not with 69", 'l', desk.reason(0));
+        desk.fix(0, 1, 0, 7, 0);
+        Check.dueChar("nor may point 0 on the right", 'l', desk.reason(0));
+        desk.come(1);
+        Check.dueChar("but with 70", '-', desk.reason(0));
     }
 
     private static void fixCentre() {

@@ -110,7 +110,7 @@ public final class RefusalTest {
         Check.refused("the wrong way round, before hung", BUSY, ARGUMENT, desk -> desk.fix(0, 2, 0, 20, 0));
         beyond("centre, before hung", BUSY, 20, 40, ARGUMENT, (desk, centre) -> desk.fix(0, 1, 2, centre, 0));
         beyond("angle, before hung", BUSY, 0, 60, ARGUMENT, (desk, angle) -> desk.fix(1, 1, 2, 30, angle));
-        beyond("angle of a piece without a fixing", ROAD, 0, 60, ARGUMENT, (desk, angle) -> desk.fix(3, 1, 2, 30, angle));
+        beyond("angle, without a fixing", ROAD, 0, 60, ARGUMENT, (desk, angle) -> desk.fix(3, 1, 2, 30, angle));
     }
 
     private static void fixState() {

@@ -428,8 +428,8 @@ public final class RigTermsTest {
         Shows.hangAll(desk, 0, 1, 2);
         Check.due("minutes 0 to 39, 60 to 89 and 200 to 209", 210, desk.end());
         // overtime, and how many minutes of work are less
-        int[][] cases = {{0, 0}, {1, 1}, {39, 39}, {40, 40}, {60, 40}, {61, 41}, {89, 69}, {90, 70}, {91, 70}, {200, 70},
-                {201, 71}, {209, 79}, {210, 80}, {211, 80}};
+        int[][] cases = {{0, 0}, {1, 1}, {39, 39}, {40, 40}, {60, 40}, {61, 41}, {89, 69}, {90, 70}, {91, 70},
+                {200, 70}, {201, 71}, {209, 79}, {210, 80}, {211, 80}};
         for (int[] c : cases) {
             desk.setRates(0, 1, c[0], 0);
             Check.due("overtime " + c[0], c[1], desk.cost());
@@ -548,6 +548,15 @@ public final class RigTermsTest {
         Check.best("two that are worth as much as one", sizes, 10, 60, 0, 0, 2);
         sizes.need(0, 3);
         Check.best("one alone", sizes, 10, 60, 0, 3);
+        Stagecargo fewer = Shows.light();
+        int[] minutes = {60, 20, 40};
+        for (int i = 0; i < minutes.length; i++) {
+            fewer.addPiece(10, minutes[i], i == 0 ? 10 : 5, 0);
+            fewer.fix(i, 0, 1, 5, 0);
+        }
+        fewer.addTown(100, 480, 5, 60);
+        fewer.come(0);
+        Check.best("one that is worth as much as two", fewer, 10, 60, 0, 0);
         Stagecargo behind = Shows.lightIn(480, 5, 1440, 10, 10, 10, 10);
         behind.hang(2);
         Check.best("behind what hangs", behind, 20, 40, 0, 2, 0, 1, 3);

@@ -137,7 +137,7 @@ public final class ShowTermsTest {
     }
 
     private static void truckOfAPiece() {
-        Check.terms("A piece has a weight in kilograms, a number of minutes that it takes to hang it, a worth, and a truck");
+        Check.terms("a number of minutes that it takes to hang it, a worth, and a truck, 0 to 2.");
         Check.range("truck", 0, 2, ARGUMENT, truck -> Shows.withPoints().addPiece(10, 5, 1, truck));
         Stagecargo desk = Shows.lightIn(480, 5, 1440, 5, 5, 5);
         desk.hang(2);
