@@ -283,15 +283,17 @@ public final class RigTest {
 
     private static void takeDownDoes() {
         Check.promise(16, "does");
-        Stagecargo desk = fullInTown();
-        String[] before = new String[6];
-        for (int i = 0; i < 3; i++) {
-            before[i] = Snapshot.of(desk);
-            desk.hang(5 - i);
-        }
-        for (int i = 2; i >= 0; i--) {
+        int[] order = {5, 1, 3, 0, 4, 2};
+        for (int hung = 0; hung < 6; hung++) {
+            Stagecargo before = fullInTown();
+            Stagecargo desk = fullInTown();
+            for (int i = 0; i < hung; i++) {
+                before.hang(order[i]);
+                desk.hang(order[i]);
+            }
+            desk.hang(order[hung]);
             desk.takeDown();
-            Check.dueText("all is as it was with " + i, before[i], Snapshot.of(desk));
+            Check.dueText("all is as it was with " + hung, Probe.of(before), Probe.of(desk));
         }
     }
 
