@@ -40,6 +40,11 @@ final class Check {
         about = "Terms, \"" + words + "\": ";
     }
 
+    /** The same for a sentence of "What it is". */
+    static void whatItIs(String words) {
+        about = "What it is, \"" + words + "\": ";
+    }
+
     static void due(String what, long due, long got) {
         verdict(what, due == got, due + "", got + "");
     }

@@ -1,13 +1,19 @@
+import java.io.IOException;
 import java.lang.reflect.Constructor;
 import java.lang.reflect.Field;
 import java.lang.reflect.Method;
 import java.lang.reflect.Modifier;
+import java.nio.file.Files;
+import java.nio.file.Path;
 import java.util.NoSuchElementException;
 import java.util.Set;
 import java.util.TreeSet;
+import java.util.regex.Matcher;
+import java.util.regex.Pattern;
 
 /** The public face: just the members that the document names, and what each may throw. */
 public final class FaceTest {
+    private static final Path DOCUMENT = Path.of("../shared/DOC.md");
     private static final String[] FACE = {
         "int addPoint(int, int) IllegalArgumentException IllegalStateException",
         "int addPiece(int, int, int, int) IllegalArgumentException IllegalStateException",
@@ -47,12 +53,13 @@ public final class FaceTest {
         "boolean isSound()",
     };
 
-    public static void main(String[] args) {
+    public static void main(String[] args) throws IOException {
         Check.isTrue("the class is public and final",
                 Modifier.isPublic(Stagecargo.class.getModifiers())
                         && Modifier.isFinal(Stagecargo.class.getModifiers()));
         methods();
         constructors();
+        document();
         for (Field field : Stagecargo.class.getDeclaredFields()) {
             Check.isTrue("field " + field.getName() + " is private", Modifier.isPrivate(field.getModifiers()));
             boolean isStatic = Modifier.isStatic(field.getModifiers());
@@ -84,6 +91,28 @@ public final class FaceTest {
                         Modifier.isPrivate(method.getModifiers()) && !names.contains(method.getName()));
             }
         }
+    }
+
+    /** The document tells each method twice: in its face, and at the method's promise. */
+    private static void document() throws IOException {
+        if (!Files.isReadable(DOCUMENT)) {
+            System.out.println("FaceTest: there is no " + DOCUMENT + " to compare with");
+            return;
+        }
+        String document = Files.readString(DOCUMENT);
+        String due = new TreeSet<>(Set.of(FACE)).toString();
+        Check.dueText("the face in the document", due, told(document, "(?m)^    public (\\w+ \\w+\\(.*\\).*);$"));
+        Check.dueText("the promises in the document", due, told(document, "(?m)^`(\\w+ \\w+\\(.*\\).*)`: "));
+    }
+
+    private static String told(String document, String pattern) {
+        Set<String> all = new TreeSet<>();
+        Matcher method = Pattern.compile(pattern).matcher(document);
+        while (method.find()) {
+            all.add(method.group(1).replaceAll("int \\w+(?=[,)])", "int").replace(" throws", "")
+                    .replaceAll("(?<=Exception), ", " "));
+        }
+        return all.toString();
     }
 
     private static void constructors() {

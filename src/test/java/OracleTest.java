@@ -1,7 +1,8 @@
 /** All promises: long runs of drawn calls, each answered by the class and by the oracle. */
 public final class OracleTest {
     private static final int RUNS = 4000;
-    private static final int CALLS = 300;
+    /** A desk is used for so many calls; each that is drawn is one. */
+    private static final int CALLS = 512;
 
     private static final int ADD_POINT = 0;
     private static final int ADD_PIECE = 1;

@@ -8,13 +8,15 @@ import java.util.regex.Matcher;
 import java.util.regex.Pattern;
 
 /**
- * No sentence of the document is left out: every part of a promise, and every sentence of "Terms", is named by a
- * test with Check.promise or Check.terms; and what the tests name stands in the document.
+ * No sentence of the document is left out: every part of a promise, and every sentence of "What it is" and "Terms",
+ * is named by a test with Check.promise, Check.whatItIs or Check.terms; and what the tests name stands in the
+ * document.
  */
 public final class SentencesTest {
     private static final Path DOCUMENT = Path.of("../shared/DOC.md");
     private static final Path TESTS = Path.of("src/test/java");
     private static final Pattern PROMISE = Pattern.compile("Check\\.promise\\((\\d+), \"([^\"]+)\"\\)");
+    private static final Pattern WHAT_IT_IS = Pattern.compile("Check\\.whatItIs\\(\"([^\"]+)\"\\)");
     private static final Pattern TERMS = Pattern.compile("Check\\.terms\\(\"([^\"]+)\"\\)");
 
     public static void main(String[] args) throws IOException {
@@ -25,7 +27,8 @@ public final class SentencesTest {
         String document = Files.readString(DOCUMENT);
         String tests = allTests();
         promises(document, tests);
-        terms(document, tests);
+        sentences(document, "What it is", "The public face", WHAT_IT_IS, tests);
+        sentences(document, "Terms", "Promise 1:", TERMS, tests);
         Check.finish("SentencesTest");
     }
 
@@ -75,18 +78,23 @@ public final class SentencesTest {
         }
     }
 
-    private static void terms(String document, String tests) {
-        int begin = document.indexOf("\n## Terms\n");
-        int end = document.indexOf("\n## Promise 1:");
-        Check.isTrue("the document has terms", begin >= 0 && end > begin);
-        String terms = document.substring(begin + 10, end).trim().replaceAll("\\s+", " ");
+    /** The sentences below one heading and above the next one that is told here. */
+    private static void sentences(String document, String heading, String next, Pattern naming, String tests) {
+        int begin = document.indexOf("\n## " + heading + "\n");
+        int end = document.indexOf("\n## " + next);
+        boolean isThere = begin >= 0 && end > begin;
+        Check.isTrue("the document has \"" + heading + "\"", isThere);
+        if (!isThere) {
+            return;
+        }
+        String text = document.substring(begin + heading.length() + 5, end).trim().replaceAll("\\s+", " ");
         Set<String> named = new TreeSet<>();
-        Matcher call = TERMS.matcher(tests);
+        Matcher call = naming.matcher(tests);
         while (call.find()) {
             named.add(call.group(1));
-            Check.isTrue("\"" + call.group(1) + "\" stands in the terms", terms.contains(call.group(1)));
+            Check.isTrue("\"" + call.group(1) + "\" stands in the document", text.contains(call.group(1)));
         }
-        for (String sentence : terms.split("(?<=[.:;])\\)? ")) {
+        for (String sentence : text.split("(?<=[.:;])\\)? ")) {
             boolean isTitle = sentence.matches("\\w+\\.");
             boolean isNamed = named.stream().anyMatch(words -> sentence.contains(words) || words.contains(sentence));
             Check.isTrue("\"" + sentence + "\" is named by a test", isTitle || isNamed);

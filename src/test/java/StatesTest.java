@@ -16,6 +16,7 @@ public final class StatesTest {
         noTownEntered();
         Check.terms("by hanging none, one or more pieces");
         nothingHung();
+        nothingHungYet();
         Check.terms("At most 8 points are numbered from 0.");
         fullShow();
         Check.terms("At most 6 pieces are numbered from 0.");
@@ -23,6 +24,7 @@ public final class StatesTest {
         allHungAndTakenDown();
         Check.terms("At most 4 towns are numbered from 0.");
         allTowns();
+        lastOfAllCalls();
         Check.finish("StatesTest");
     }
 
@@ -43,6 +45,9 @@ public final class StatesTest {
         for (int truck = 0; truck < 3; truck++) {
             Check.due("setArrival", 0, desk.setArrival(truck, 1440));
         }
+        Check.due("addPoint", 0, desk.addPoint(60, 5000));
+        Check.due("addPiece", 0, desk.addPiece(2000, 240, 99, 2));
+        Check.due("addTown", 0, desk.addTown(100, 480, 120, 1440));
     }
 
     private static void noTown() {
@@ -65,6 +70,9 @@ public final class StatesTest {
         Check.due("a need", 1, desk.need(0, 1));
         Check.due("an arrival", 0, desk.setArrival(0, 1));
         Check.due("rates", 2, desk.setRates(3, 1, 1, 1));
+        nothingMoreIsEntered(desk);
+        Check.due("come", 0, desk.come(3));
+        Check.due("in a town at last", 3, desk.town());
     }
 
     private static void noTownEntered() {
@@ -122,11 +130,33 @@ public final class StatesTest {
         Check.due("complete", 6, desk.complete());
     }
 
-    private static void fullShow() {
+    private static void nothingHungYet() {
         Stagecargo desk = Shows.full();
+        desk.come(3);
+        Check.due("town", 3, desk.town());
+        Check.due("loadOn", 160, desk.loadOn(5, 7));
+        nothingMoreIsEntered(desk);
+        for (int piece = 0; piece < 6; piece++) {
+            Check.due("fix", 0, desk.fix(piece, 0, 7, 0, 0));
+        }
+        for (int truck = 0; truck < 3; truck++) {
+            Check.due("setArrival", 0, desk.setArrival(truck, 9));
+        }
+        Check.due("setRates", 2, desk.setRates(3, 0, 0, 0));
+        Check.due("need", 1, desk.need(5, 4));
+        Check.thrown("hang what needs another", STATE, () -> desk.hang(5));
+        Check.due("hang", 59, desk.hang(4));
+    }
+
+    private static void nothingMoreIsEntered(Stagecargo desk) {
         Check.thrown("a ninth point", STATE, () -> desk.addPoint(0, 100));
         Check.thrown("a seventh piece", STATE, () -> desk.addPiece(10, 5, 1, 0));
         Check.thrown("a fifth town", STATE, () -> desk.addTown(10, 30, 5, 60));
+    }
+
+    private static void fullShow() {
+        Stagecargo desk = Shows.full();
+        nothingMoreIsEntered(desk);
         Check.thrown("no point 8 to fix at", INDEX, () -> desk.fix(5, 6, 8, 60, 0));
         Check.thrown("no point 8 to load", INDEX, () -> desk.loadOn(5, 8));
         Check.thrown("no piece 6 to fix", ELEMENT, () -> desk.fix(6, 6, 7, 60, 0));
@@ -160,7 +190,12 @@ public final class StatesTest {
         }
         for (int point = 0; point < 8; point++) {
             Check.due("bears", loads[point], desk.bears(point));
+            Check.due("mayBear", 1000 + point, desk.mayBear(point));
+            Check.due("loadOn", point == 4 ? 140 : 0, desk.loadOn(4, point));
         }
+        nothingMoreIsEntered(desk);
+        Check.due("town", 3, desk.town());
+        Check.due("setRates", 2, desk.setRates(3, 2, 100, 3));
         Check.due("hung", 6, desk.hung());
         Check.thrown("hungAt(6)", INDEX, () -> desk.hungAt(6));
         Check.due("end", 210, desk.end());
@@ -206,5 +241,23 @@ public final class StatesTest {
             Check.thrown("rates out of range", ARGUMENT, () -> desk.setRates(0, 100, 0, 0));
             Check.due("what hangs goes on hanging", hung[town], desk.hung());
         }
+    }
+
+    private static void lastOfAllCalls() {
+        Check.whatItIs("An object is used for at most 512 calls after it has been made;");
+        Check.whatItIs("what later calls answer is free.");
+        Stagecargo desk = Shows.full();
+        int calls = 8 + 2 * 6 + 1 + 4 + 1;
+        int before = 0;
+        while (calls + 6 <= 512) {
+            Check.due("come", before, desk.come(3));
+            before = desk.complete();
+            Check.due("completions", 1, desk.completions());
+            Check.isTrue("isSound", desk.isSound());
+            calls += 4;
+        }
+        Check.due("takeDown", 5, desk.takeDown());
+        Check.due("hang as the last of 512", 210, desk.hang(5));
+        Check.due("so many calls", 512, calls + 2);
     }
 }
